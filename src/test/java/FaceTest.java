@@ -22,7 +22,8 @@ public final class FaceTest {
         Check.due("NONE", CountLearners.NONE, -1);
         Check.due("BAD", CountLearners.BAD, -2);
         Check.due("FULL", CountLearners.FULL, -3);
-        Check.isTrue("public and final", Modifier.isPublic(face.getModifiers()) && Modifier.isFinal(face.getModifiers()));
+        Check.isTrue("the class is public", Modifier.isPublic(face.getModifiers()));
+        Check.isTrue("the class is final", Modifier.isFinal(face.getModifiers()));
         methods(face);
         fields(face);
         Constructor<?>[] makers = face.getDeclaredConstructors();

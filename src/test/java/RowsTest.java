@@ -231,6 +231,11 @@ public final class RowsTest {
         x.addition(0, 1);
         Check.rowOf(x, NONE, 5);
         Check.due("best(4), all are 0", x.best(4), NONE);
+        CountLearners y = new CountLearners();
+        Check.rowOf(y, 0, 6, 6, 0, 0, 0, 0);
+        Check.rowOf(y, 1, 6);
+        Check.rowOf(y, NONE, 6);
+        Check.due("best(2) of 3 / 14 and 2 / 9", y.best(2), 1);
         Check.due("best(5)", x.best(5), BAD);
         Check.due("best(-1)", x.best(-1), BAD);
         for (int far : FAR) {

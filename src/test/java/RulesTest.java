@@ -5,6 +5,7 @@ public final class RulesTest {
     public static void main(String[] args) {
         refusals();
         order();
+        laterWordsMayStandFirst();
         wordsCountOnceInARow();
         allRules();
         count();
@@ -48,6 +49,17 @@ public final class RulesTest {
         Check.dueRule(x, 4, 4, 1, 1, 1, 2);
         Check.dueRule(x, 6, 4, 7, 1, 1, 2);
         Check.dueRule(x, 7, 2, 4, 1, 1, 4);
+    }
+
+    private static void laterWordsMayStandFirst() {
+        CountLearners x = new CountLearners();
+        Check.rowOf(x, NONE, 0, 1);
+        Check.rowOf(x, NONE, 7, 6);
+        Check.rowOf(x, NONE, 6, 7);
+        Check.dueRule(x, 0, 6, 7, 2, 1, 1);
+        Check.dueRule(x, 1, 7, 6, 2, 1, 1);
+        Check.dueRule(x, 2, 0, 1, 1, 1, 1);
+        Check.dueRule(x, 3, 1, 0, 1, 1, 1);
     }
 
     private static void wordsCountOnceInARow() {

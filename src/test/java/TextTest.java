@@ -145,5 +145,9 @@ public final class TextTest {
         Check.textOf(x, 6, 7, 6, 7);
         Check.due("likely(NONE, 6)", x.likely(NONE, 6), 7);
         Check.due("likely(NONE, NONE)", x.likely(NONE, NONE), 6);
+        CountLearners y = new CountLearners();
+        Check.textOf(y, 0, 1, 7, 1);
+        Check.due("likely(NONE, NONE) of 1", y.likely(NONE, NONE), 1);
+        Check.due("likely(0, 1) of 7", y.likely(0, 1), 7);
     }
 }
