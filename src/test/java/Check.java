@@ -4,15 +4,21 @@ final class Check {
 
     private static int wrong = 0;
     private static int asked = 0;
+    private static String sentence = "";
 
     private Check() {
+    }
+
+    /** The words of the document that the answers below are due by; they are printed with a wrong one. */
+    static void sentence(String words) {
+        sentence = "[" + words + "] ";
     }
 
     static void due(String call, long got, long want) {
         asked++;
         if (got != want) {
             wrong++;
-            System.out.println(call + " answered " + told(got) + ", due is " + told(want));
+            System.out.println(sentence + call + " answered " + told(got) + ", due is " + told(want));
         }
     }
 
@@ -20,7 +26,7 @@ final class Check {
         asked++;
         if (!holds) {
             wrong++;
-            System.out.println("does not hold: " + what);
+            System.out.println(sentence + "does not hold: " + what);
         }
     }
 

@@ -10,10 +10,7 @@ import java.util.Random;
  */
 public final class RandomRunsTest {
     private static final int NONE = CountLearners.NONE, BAD = CountLearners.BAD, FULL = CountLearners.FULL;
-    private static final String[] CALLS = {
-        "row", "word", "label", "addition", "counted", "share", "weight", "best", "rounds", "guess", "text",
-        "next", "likely", "weigh", "sign", "path", "total", "at", "learn", "rule", "count"
-    };
+    private static final String[] CALLS = Calls.NAMES;
     // How often each call comes, in the order of CALLS, for several kinds of runs.
     private static final int[][] MIXES = {
         {4, 12, 2, 1, 2, 2, 2, 2, 1, 2, 6, 6, 2, 4, 2, 2, 2, 3, 1, 3, 1},
@@ -42,8 +39,8 @@ public final class RandomRunsTest {
         for (int i = 0; i < CALLS_IN_RUN && Check.isRight(); i++) {
             int call = pick(random, mix);
             int[] a = arguments(random, call, words, far, model);
-            String told = "run " + run + ", call " + i + ": " + CALLS[call] + Arrays.toString(a);
-            Check.due(told, asked(x, call, a), model.asked(call, a));
+            String told = "run " + run + ", call " + i + ": " + Calls.told(CALLS[call], a);
+            Check.due(told, Calls.ask(x, CALLS[call], a), model.asked(call, a));
         }
     }
 
@@ -85,32 +82,6 @@ public final class RandomRunsTest {
             a[random.nextInt(a.length)] = odd[random.nextInt(odd.length)];
         }
         return a;
-    }
-
-    private static long asked(CountLearners x, int call, int[] a) {
-        switch (CALLS[call]) {
-            case "row": return x.row(a[0]);
-            case "word": return x.word(a[0], a[1]);
-            case "label": return x.label(a[0], a[1]);
-            case "addition": return x.addition(a[0], a[1]);
-            case "counted": return x.counted(a[0], a[1]);
-            case "share": return Check.share(x, a[0], a[1], a[2]);
-            case "weight": return x.weight(a[0], a[1], a[2]);
-            case "best": return x.best(a[0]);
-            case "rounds": return x.rounds(a[0]);
-            case "guess": return x.guess(a[0]);
-            case "text": return x.text(a[0]);
-            case "next": return x.next(a[0], a[1], a[2], a[3]);
-            case "likely": return x.likely(a[0], a[1]);
-            case "weigh": return x.weigh(a[0], a[1], a[2], a[3]);
-            case "sign": return x.sign(a[0], a[1]);
-            case "path": return x.path(a[0], a[1]);
-            case "total": return x.total(a[0]);
-            case "at": return Check.at(x, a[0], a[1], a[2], a[3]);
-            case "learn": return x.learn(a[0]);
-            case "rule": return x.rule(a[0], a[1]);
-            default: return x.count(a[0]);
-        }
     }
 
     /** A fraction in least terms. */
