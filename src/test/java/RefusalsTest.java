@@ -28,6 +28,7 @@ public final class RefusalsTest {
         throwsChangeNothing();
         questionsChangeNothing();
         sectionsStandApart();
+        objectsStandApart();
         Check.end();
     }
 
@@ -244,6 +245,20 @@ public final class RefusalsTest {
             leavesOthers(sample, Portrait.ROWS, "rounds", 20);
             for (Portrait part : List.of(Portrait.TEXT, Portrait.STATES)) {
                 dueUnchanged(sample, part, "word", new int[] {1, 7});
+            }
+        }
+    }
+
+    private static void objectsStandApart() {
+        Check.sentence("an object is changed by its own calls alone");
+        for (Samples sample : Samples.values()) {
+            for (Samples other : Samples.values()) {
+                for (Portrait part : Portrait.values()) {
+                    long[] alone = part.of(sample.make());
+                    CountLearners x = sample.make();
+                    part.of(other.make());
+                    Check.isTrue(part + " of " + sample + " beside " + other, Arrays.equals(part.of(x), alone));
+                }
             }
         }
     }

@@ -23,6 +23,8 @@ public final class RowEdgesTest {
         theRowItselfCounts();
         exactWeights();
         bestOfLikeOnes();
+        bestOfSmallWeights();
+        bestIsExact();
         bestIsNone();
         bestWithALabel();
         guessIsNoneAtFirst();
@@ -30,6 +32,7 @@ public final class RowEdgesTest {
         roundThatChangesNothing();
         moreThanTwentyRounds();
         guessesOfOneRound();
+        guessesOfAllRows();
         noGuessWithALabel();
         noGuessIfNothingIsBest();
         guessesAreTakenAway();
@@ -366,6 +369,48 @@ public final class RowEdgesTest {
         Check.due("best(0), two greatest", x.best(0), 2);
     }
 
+    /** Of a word that no label has met: 1 / 10, 1 / 9, 1 / 11, 1 / 14. */
+    private static void bestOfSmallWeights() {
+        Check.sentence("BEST is the LABEL of the greatest WEIGHT: upper numbers are alike");
+        CountLearners x = new CountLearners();
+        Check.rowOf(x, 0, 1, 1);
+        Check.rowOf(x, 1, 2);
+        Check.rowOf(x, 2, 3, 3, 3);
+        Check.rowOf(x, 3, 4, 4, 4, 4, 4, 4);
+        Check.rowOf(x, NONE, 5);
+        Check.dueWeight(x, 4, 1, 1, 9);
+        Check.due("best(4)", x.best(4), 1);
+        x.label(1, 3);
+        Check.due("best(4), 2 / 15 of label 3", x.best(4), 3);
+        x.label(3, NONE);
+        Check.due("best(4), 1 / 9 of label 3", x.best(4), 3);
+    }
+
+    /** Like weights of labels 1 and 3; by doubles, in steps or at once, that of 3 would be above. */
+    private static void bestIsExact() {
+        Check.sentence("All shares are exact; BEST is of like ones the least");
+        CountLearners x = new CountLearners();
+        x.addition(1, 3);
+        spread(x, 3, 28, 37, 3, 123);
+        spread(x, 1, 4, 5, 3, 13);
+        int row = Check.rowOf(x, NONE, 0, 0, 0, 0, 0, 1);
+        // 28 * (112 / 497)^5 * 10 / 497, and 4 * (16 / 71)^5 * 10 / 71
+        Check.dueWeight(x, row, 3, 41943040L, 128100283921L);
+        Check.dueWeight(x, row, 1, 41943040L, 128100283921L);
+        Check.due("best(" + row + ")", x.best(row), 1);
+    }
+
+    /** So many rows of a label with so many words 0, 1 and 2 in all, six in a row. */
+    private static void spread(CountLearners x, int label, int rows, int zeros, int ones, int twos) {
+        int first = x.count(0);
+        for (int i = 0; i < rows; i++) {
+            x.row(label);
+        }
+        for (int i = 0; i < zeros + ones + twos; i++) {
+            x.word(first + i / 6, i < zeros ? 0 : i < zeros + ones ? 1 : 2);
+        }
+    }
+
     private static void bestIsNone() {
         Check.sentence("there is none, if all are 0");
         CountLearners x = new CountLearners();
@@ -474,6 +519,19 @@ public final class RowEdgesTest {
         Check.due("guess(3), not yet by row 2", x.guess(3), 0);
         x.rounds(1);
         Check.due("guess(3), by row 2", x.guess(3), 1);
+    }
+
+    private static void guessesOfAllRows() {
+        Check.sentence("A ROUND gives each row without a LABEL as its GUESS what is BEST for it: the first, the last");
+        CountLearners x = new CountLearners();
+        for (int row = 0; row < 40; row++) {
+            x.row(row == 20 ? 1 : NONE);
+        }
+        Check.due("rounds(20)", x.rounds(20), 2);
+        for (int row = 0; row < 40; row++) {
+            Check.due("guess(" + row + ")", x.guess(row), row == 20 ? NONE : 1);
+        }
+        Check.due("counted(1, 9)", x.counted(1, 9), 40);
     }
 
     private static void noGuessWithALabel() {
