@@ -346,11 +346,11 @@ public final class StateEdgesTest {
         Check.dueAt(x, 0, 0, 2, 1, 1);
     }
 
-    /** Found by a search; a slow model told 18 rounds, too. */
-    private static CountLearners eighteenRounds() {
-        int[] starts = {1, 3, 19, 7};
-        int[] moves = {14, 8, 16, 18, 18, 4, 15, 12, 16, 13, 3, 0, 0, 3, 16, 21};
-        int[] shows = {15, 6, 4, 3, 17, 16, 16, 10, 12, 13, 7, 10, 11, 19, 3, 3};
+    /** Found by a search; slow models told 20 rounds, too. */
+    private static CountLearners twentyRounds() {
+        int[] starts = {0, 14, 12, 2};
+        int[] moves = {13, 14, 5, 17, 10, 0, 9, 11, 4, 19, 11, 16, 0, 19, 1, 0};
+        int[] shows = {4, 2, 18, 9, 20, 1, 15, 10, 2, 5, 15, 5, 21, 17, 14, 3};
         CountLearners x = new CountLearners();
         for (int i = 0; i < 4; i++) {
             x.weigh(START, i, 0, starts[i]);
@@ -359,26 +359,26 @@ public final class StateEdgesTest {
                 x.weigh(SHOW, i, j, shows[4 * i + j]);
             }
         }
-        Check.signsOf(x, 0, 0, 0, 2, 0, 1);
-        Check.signsOf(x, 1, 0, 2, 2, 1, 0);
-        Check.signsOf(x, 2, 0, 0, 0, 3, 3);
-        Check.signsOf(x, 3, 0, 0, 1, 0, 0);
+        Check.signsOf(x, 0, 1, 2, 0, 2, 0);
+        Check.signsOf(x, 1, 2, 1, 0, 2, 2);
+        Check.signsOf(x, 2, 2, 3, 3, 3, 3);
+        Check.signsOf(x, 3, 2, 2, 2, 0, 2);
         return x;
     }
 
     private static void learnAsTold() {
         Check.sentence("ROUNDS of states, at most n (1 .. 20). BAD");
         for (int n = 1; n <= 20; n++) {
-            CountLearners x = eighteenRounds();
-            int done = n < 18 ? n : 18;
-            Check.due("learn(" + n + ")", x.learn(n), done);
-            Check.due("learn(20) after learn(" + n + ")", x.learn(20), done < 18 ? 18 - done : 1);
+            CountLearners x = twentyRounds();
+            Check.due("learn(" + n + ")", x.learn(n), n);
+            Check.due("learn(20) after learn(" + n + ")", x.learn(20), n < 20 ? 20 - n : 1);
+            Check.due("learn(20), nothing is left", x.learn(20), 1);
         }
-        CountLearners x = eighteenRounds();
+        CountLearners x = twentyRounds();
         for (int n : new int[] {0, -1, 21, Integer.MIN_VALUE, Integer.MAX_VALUE}) {
             Check.due("learn(" + n + ")", x.learn(n), BAD);
         }
-        Check.due("START of 2 after refusals", x.weigh(START, 2, 0, NONE), 19);
+        Check.due("START of 1 after refusals", x.weigh(START, 1, 0, NONE), 14);
     }
 
     private static void roundThatChangesNothing() {
